@@ -12,7 +12,6 @@ public final class StairNews {
     private static final int WITHOUT_EVENINGS = -1000000;
     private static final int TAPE_MAX = 400;
     private static final int DIGITS_MAX = 5;
-    private static final int NUMBER_MAX = 99999;
     private static final int FLOORS_MAX = 9;
     private static final int PEOPLE_MAX = 7;
     private static final int ALL_PEOPLE = (1 << PEOPLE_MAX) - 1;
@@ -22,19 +21,26 @@ public final class StairNews {
     private static final int PACE_MAX = 9;
     private static final int EARLY_BELL_MAX = 99;
     private static final int BELL_MAX = 999;
+    /** No object is used for more calls, so no bell is beyond their number. */
+    private static final int CALLS_MAX = 512;
     private static final int CHAIRS_MAX = 999;
     private static final int WHISPERED_CHAIRS_MAX = 99;
     private static final int RULES_MAX = 6;
     private static final int RULE_CLAUSES_MAX = 12;
     private static final int RULE_AMOUNT_MAX = 60;
     private static final int DEPTH_MAX = 10;
-    private static final int STACK_MAX = 64;
+    /** 60 values and comparisons, fewer signs between them, 19 words between comparisons, 100 times not. */
+    private static final int RULE_CODE_MAX = 240;
+    /** Two that wait for and and or at each depth, four of a comparison. */
+    private static final int STACK_MAX = 2 * (DEPTH_MAX + 1) + 4;
     private static final int ACTS_MAX = 20;
     private static final int LOOKED_MAX = 100;
     private static final int PLANNED_MAX = 60;
     private static final int EVENINGS_MAX = 10;
     private static final int NEWS_MAX = 10;
     private static final int START_BELL_MAX = 40;
+    /** From 0 chairs each of the others on the way adds or takes nine at most. */
+    private static final int START_CHAIRS_MAX = 9 * (PEOPLE_MAX - 1);
     private static final int STARTS_MAX = PEOPLE_MAX * (START_BELL_MAX + 1);
     private static final int IMAGES_MAX = 4;
 
@@ -427,13 +433,21 @@ public final class StairNews {
         return what == 0 ? Integer.bitCount(set) : set;
     }
 
-    /** The bytes that came, with a place in them for the readers; the first fault stays. */
+    /** The bytes that came, and for the readers the token of them that comes next. */
     private static final class Tape {
+        static final int WORD = 'a';
+        static final int NUMBER = '0';
+        static final int LESS_OR_SAME = 256;
+        static final int MORE_OR_SAME = 257;
         private static final int END = -1;
+        private static final int STOPPED = -2;
 
         final byte[] bytes = new byte[TAPE_MAX];
         int length;
+        /** WORD, NUMBER, a sign of two bytes, or else the byte itself; END behind the last; STOPPED by a fault. */
+        int kind;
         int place;
+        int size;
         int fault;
 
         void append(int four) {
@@ -444,125 +458,102 @@ public final class StairNews {
         }
 
         void rewind() {
-            place = 0;
             fault = 0;
+            place = 0;
+            size = 0;
+            next();
         }
 
-        void fail(int kind) {
+        /** The first fault stays, and behind it no token is as any reader wants it. */
+        void fail(int number) {
             if (fault == 0) {
-                fault = 1 + 8 * place + kind;
+                fault = 1 + 8 * place + number;
             }
+            kind = STOPPED;
+            size = 0;
         }
 
-        boolean isSound() {
-            return fault == 0;
-        }
-
-        /** The sign behind the blanks at the place; END behind the last byte. */
-        int sign() {
+        /** Goes on to the next token; not behind a fault. */
+        void next() {
+            if (fault != 0) {
+                return;
+            }
+            place += size;
             while (place < length && bytes[place] == ' ') {
                 place++;
             }
-            return place < length ? bytes[place] & 255 : END;
-        }
-
-        /** Passes that sign, if it comes next. */
-        boolean passes(int sign) {
-            if (sign() != sign) {
-                return false;
+            size = place < length ? 1 : 0;
+            int first = size == 1 ? bytes[place] & 255 : END;
+            int second = place + 1 < length ? bytes[place + 1] : END;
+            if (first >= 'a' && first <= 'z') {
+                kind = WORD;
+                while (place + size < length && bytes[place + size] >= 'a' && bytes[place + size] <= 'z') {
+                    size++;
+                }
+            } else if (first >= '0' && first <= '9') {
+                kind = NUMBER;
+                while (place + size < length && bytes[place + size] >= '0' && bytes[place + size] <= '9') {
+                    size++;
+                }
+            } else if (second == '=' && (first == '<' || first == '>')) {
+                kind = first == '<' ? LESS_OR_SAME : MORE_OR_SAME;
+                size = 2;
+            } else {
+                kind = first;
             }
-            place++;
-            return true;
         }
 
-        int letters() {
-            int size = 0;
-            while (place + size < length && bytes[place + size] >= 'a' && bytes[place + size] <= 'z') {
-                size++;
-            }
-            return size;
-        }
-
-        int digits() {
-            int size = 0;
-            while (place + size < length && bytes[place + size] >= '0' && bytes[place + size] <= '9') {
-                size++;
-            }
-            return size;
-        }
-
-        /** Which of these words (a blank between) comes next; NONE: none of them. It is not passed. */
+        /** Which of these words (a blank between) the token is; NONE: none of them. */
         int word(String words) {
-            sign();
-            int size = letters();
             int number = 0;
-            int from = 0;
-            for (int i = 0; size > 0 && i <= words.length(); i++) {
+            int alike = 0;
+            for (int i = 0; kind == WORD && i <= words.length(); i++) {
                 if (i == words.length() || words.charAt(i) == ' ') {
-                    if (i - from == size && isHere(words, from, size)) {
+                    if (alike == size) {
                         return number;
                     }
                     number++;
-                    from = i + 1;
+                    alike = 0;
+                } else if (alike >= 0 && alike < size && words.charAt(i) == bytes[place + alike]) {
+                    alike++;
+                } else {
+                    alike = NONE;
                 }
             }
             return NONE;
         }
 
-        private boolean isHere(String words, int from, int size) {
-            for (int i = 0; i < size; i++) {
-                if (words.charAt(from + i) != bytes[place + i]) {
-                    return false;
-                }
-            }
-            return true;
-        }
-
-        void passWord() {
-            place += letters();
-        }
-
-        /** Passes that one word, if it comes next. */
-        boolean passesWord(String word) {
-            if (word(word) == NONE) {
-                return false;
-            }
-            passWord();
-            return true;
-        }
-
-        /** Passes a number from low to high that is not the unlike one; 0 with a fault. */
-        int number(int low, int high, int unlike) {
-            sign();
-            int size = digits();
-            if (size == 0) {
-                fail(FAULT_SIGN);
-            }
-            int value = valueOf(size);
-            if (size > DIGITS_MAX || value < low || value > high || value == unlike) {
-                fail(FAULT_NUMBER);
-            }
-            if (!isSound()) {
-                return 0;
-            }
-            place += size;
-            return value;
-        }
-
-        private int valueOf(int size) {
+        /** What the token's digits tell; those beyond the most that a number has are not looked at. */
+        int value() {
             int value = 0;
-            for (int i = 0; i < size && i < DIGITS_MAX; i++) {
+            for (int i = 0; kind == NUMBER && i < size && i < DIGITS_MAX; i++) {
                 value = value * 10 + bytes[place + i] - '0';
             }
             return value;
         }
 
+        /** Passes a number from low to high that is not the unlike one; 0 with a fault. */
+        int number(int low, int high, int unlike) {
+            int value = value();
+            if (kind != NUMBER) {
+                fail(FAULT_SIGN);
+                return 0;
+            }
+            if (size > DIGITS_MAX || value < low || value > high || value == unlike) {
+                fail(FAULT_NUMBER);
+                return 0;
+            }
+            next();
+            return value;
+        }
+
         /** Whether another clause comes behind this one. */
         boolean goesOn() {
-            if (!isSound() || passes(';')) {
-                return isSound();
+            if (kind == ';') {
+                next();
+                return true;
             }
-            if (sign() != END) {
+            if (kind != END) {
                 fail(FAULT_SIGN);
             }
             return false;
@@ -694,8 +685,8 @@ public final class StairNews {
             } else if (clauses >= HOUSE_CLAUSES_MAX || (kind == HOUSE) != (clauses == 0) || isOver(kind, house)) {
                 tape.fail(FAULT_CLAUSE);
             } else {
-                tape.passWord();
-                readAmong(kind, tape, house);
+                tape.next();
+                readNumbers(kind, tape, house);
             }
         }
 
@@ -710,7 +701,7 @@ public final class StairNews {
             }
         }
 
-        private static void readAmong(int kind, Tape tape, House house) {
+        private static void readNumbers(int kind, Tape tape, House house) {
             switch (kind) {
                 case ERRAND:
                 case HATES:
@@ -737,7 +728,7 @@ public final class StairNews {
             } else if (kind == ADDS || kind == TAKES) {
                 second = tape.number(1, 9, NONE);
             }
-            if (!tape.isSound()) {
+            if (tape.fault != 0) {
                 return;
             }
             switch (kind) {
@@ -765,7 +756,7 @@ public final class StairNews {
             } else if (kind == BUCKET) {
                 second = tape.number(0, house.floors - 1, floor);
             }
-            if (!tape.isSound()) {
+            if (tape.fault != 0) {
                 return;
             }
             switch (kind) {
@@ -798,10 +789,9 @@ public final class StairNews {
         static final int OR = 13;
         static final int NOT = 14;
 
-        final int[] code = new int[TAPE_MAX];
+        final int[] code = new int[RULE_CODE_MAX];
         final int[] sumAt = new int[RULE_CLAUSES_MAX + 1];
         final int[] testAt = new int[RULE_CLAUSES_MAX];
-        final long[] stack = new long[STACK_MAX];
         int size;
         int clauses;
 
@@ -831,22 +821,22 @@ public final class StairNews {
         }
 
         /** The sum of the first clause without a test, or whose test holds; 0 without one. */
-        long sum(long[] words) {
+        long sum(long[] words, long[] stack) {
             for (int i = 0; i < clauses && i < RULE_CLAUSES_MAX; i++) {
-                if (testAt[i] == sumAt[i + 1] || compute(testAt[i], sumAt[i + 1], words) != 0) {
-                    return compute(sumAt[i], testAt[i], words);
+                if (testAt[i] == sumAt[i + 1] || compute(testAt[i], sumAt[i + 1], words, stack) != 0) {
+                    return compute(sumAt[i], testAt[i], words, stack);
                 }
             }
             return 0;
         }
 
-        private long compute(int from, int to, long[] words) {
+        private long compute(int from, int to, long[] words, long[] stack) {
             int top = 0;
             for (int i = from; i < to && i < code.length; i++) {
                 int operation = code[i] & 15;
                 int argument = code[i] >> 4;
                 if (operation == NUMBER || operation == WORD) {
-                    if (top < STACK_MAX) {
+                    if (top < stack.length && (operation == NUMBER || argument < words.length)) {
                         stack[top] = operation == NUMBER ? argument : words[argument];
                         top++;
                     }
@@ -898,150 +888,141 @@ public final class StairNews {
             amount = 0;
             boolean more = true;
             for (int clauses = 0; more && clauses <= RULE_CLAUSES_MAX; clauses++) {
-                readClause(clauses);
+                if (tape.word("tell") == NONE) {
+                    tape.fail(FAULT_SIGN);
+                } else if (clauses >= RULE_CLAUSES_MAX) {
+                    tape.fail(FAULT_CLAUSE);
+                }
+                tape.next();
+                readSum();
+                rule.closeSum();
+                if (tape.word("if") != NONE) {
+                    tape.next();
+                    readTest(0);
+                }
+                rule.closeClause();
                 more = tape.goesOn();
             }
             return tape.fault;
         }
 
-        private void readClause(int clauses) {
-            if (tape.word("tell") == NONE) {
-                tape.fail(FAULT_SIGN);
-                return;
-            }
-            if (clauses >= RULE_CLAUSES_MAX) {
-                tape.fail(FAULT_CLAUSE);
-                return;
-            }
-            tape.passWord();
-            readSum();
-            rule.closeSum();
-            if (tape.isSound() && tape.passesWord("if")) {
-                readTest(0);
-            }
-            rule.closeClause();
-        }
-
         private void readTest(int depth) {
-            readPart(depth);
-            for (int i = 0; i < TAPE_MAX && tape.isSound() && tape.passesWord("or"); i++) {
-                readPart(depth);
+            readFact(depth);
+            // An or waits until the part behind it is whole: and binds more closely.
+            boolean orWaits = false;
+            int joint = tape.word("and or");
+            for (int i = 0; i < TAPE_MAX && joint != NONE; i++) {
+                tape.next();
+                if (joint == 1 && orWaits) {
+                    rule.emit(Rule.OR, 0);
+                }
+                readFact(depth);
+                if (joint == 0) {
+                    rule.emit(Rule.AND, 0);
+                }
+                orWaits |= joint == 1;
+                joint = tape.word("and or");
+            }
+            if (orWaits) {
                 rule.emit(Rule.OR, 0);
             }
         }
 
-        private void readPart(int depth) {
-            readFact(depth);
-            for (int i = 0; i < TAPE_MAX && tape.isSound() && tape.passesWord("and"); i++) {
-                readFact(depth);
-                rule.emit(Rule.AND, 0);
-            }
-        }
-
         private void readFact(int depth) {
-            boolean opens = tape.sign() == '[';
             boolean denies = tape.word("not") != NONE;
-            if (!opens && !denies) {
+            if (!denies && tape.kind != '[') {
                 readComparison();
             } else if (depth >= DEPTH_MAX) {
                 tape.fail(FAULT_DEPTH);
             } else if (denies) {
-                tape.passWord();
+                tape.next();
                 readFact(depth + 1);
                 rule.emit(Rule.NOT, 0);
             } else {
-                tape.place++;
+                tape.next();
                 readTest(depth + 1);
-                if (tape.isSound() && !tape.passes(']')) {
+                if (tape.kind != ']') {
                     tape.fail(FAULT_SIGN);
                 }
+                tape.next();
             }
         }
 
         private void readComparison() {
             readSum();
-            if (!tape.isSound()) {
-                return;
-            }
-            int operation = comparisonHere();
+            int operation = comparisonOf(tape.kind);
             if (operation == NONE) {
                 tape.fail(FAULT_SIGN);
-                return;
+            } else if (amount >= RULE_AMOUNT_MAX) {
+                tape.fail(FAULT_AMOUNT);
             }
-            countOneMore();
-            if (!tape.isSound()) {
-                return;
-            }
-            tape.place += operation == Rule.LESS_OR_SAME || operation == Rule.MORE_OR_SAME ? 2 : 1;
+            amount++;
+            tape.next();
             readSum();
             rule.emit(operation, 0);
         }
 
-        private int comparisonHere() {
-            int sign = tape.sign();
-            int next = tape.place + 1;
-            boolean orSame = next < tape.length && tape.bytes[next] == '=';
-            switch (sign) {
-                case '<': return orSame ? Rule.LESS_OR_SAME : Rule.LESS;
+        private static int comparisonOf(int kind) {
+            switch (kind) {
+                case '<': return Rule.LESS;
+                case Tape.LESS_OR_SAME: return Rule.LESS_OR_SAME;
                 case '=': return Rule.SAME;
-                case '>': return orSame ? Rule.MORE_OR_SAME : Rule.MORE;
+                case Tape.MORE_OR_SAME: return Rule.MORE_OR_SAME;
+                case '>': return Rule.MORE;
                 default: return NONE;
             }
         }
 
         private void readSum() {
-            readTerm();
-            for (int i = 0; i < TAPE_MAX && tape.isSound(); i++) {
-                int sign = tape.sign();
-                if (sign != '+' && sign != '-') {
-                    return;
+            readValue();
+            // A plus or minus waits until the term behind it is whole.
+            int waiting = NONE;
+            int operation = arithmeticOf(tape.kind);
+            for (int i = 0; i < TAPE_MAX && operation != NONE; i++) {
+                boolean waits = operation == Rule.PLUS || operation == Rule.MINUS;
+                tape.next();
+                if (waits && waiting != NONE) {
+                    rule.emit(waiting, 0);
                 }
-                tape.place++;
-                readTerm();
-                rule.emit(sign == '+' ? Rule.PLUS : Rule.MINUS, 0);
+                readValue();
+                if (waits) {
+                    waiting = operation;
+                } else {
+                    rule.emit(operation, 0);
+                }
+                operation = arithmeticOf(tape.kind);
+            }
+            if (waiting != NONE) {
+                rule.emit(waiting, 0);
             }
         }
 
-        private void readTerm() {
-            readValue();
-            for (int i = 0; i < TAPE_MAX && tape.isSound(); i++) {
-                int sign = tape.sign();
-                if (sign != '*' && sign != '/' && sign != '%') {
-                    return;
-                }
-                tape.place++;
-                readValue();
-                rule.emit(sign == '*' ? Rule.TIMES : sign == '/' ? Rule.BY : Rule.REST, 0);
+        private static int arithmeticOf(int kind) {
+            switch (kind) {
+                case '+': return Rule.PLUS;
+                case '-': return Rule.MINUS;
+                case '*': return Rule.TIMES;
+                case '/': return Rule.BY;
+                case '%': return Rule.REST;
+                default: return NONE;
             }
         }
 
         private void readValue() {
             int word = tape.word(WORDS);
-            int size = tape.digits();
-            if (word == NONE && size == 0) {
+            if (word == NONE && tape.kind != Tape.NUMBER) {
                 tape.fail(FAULT_SIGN);
-            } else if (size > DIGITS_MAX) {
+            } else if (tape.kind == Tape.NUMBER && tape.size > DIGITS_MAX) {
                 tape.fail(FAULT_NUMBER);
-            }
-            countOneMore();
-            if (!tape.isSound()) {
-                return;
-            }
-            if (word != NONE) {
-                tape.passWord();
+            } else if (amount >= RULE_AMOUNT_MAX) {
+                tape.fail(FAULT_AMOUNT);
+            } else if (word != NONE) {
                 rule.emit(Rule.WORD, word);
             } else {
-                rule.emit(Rule.NUMBER, tape.number(0, NUMBER_MAX, NONE));
+                rule.emit(Rule.NUMBER, tape.value());
             }
-        }
-
-        /** Values and comparisons are counted together, over all clauses. */
-        private void countOneMore() {
-            if (amount >= RULE_AMOUNT_MAX) {
-                tape.fail(FAULT_AMOUNT);
-            } else {
-                amount++;
-            }
+            amount++;
+            tape.next();
         }
     }
 
@@ -1202,6 +1183,7 @@ public final class StairNews {
         int plants;
         int deaf;
         final long[] words = new long[TWIST + 1];
+        final long[] stack = new long[STACK_MAX];
 
         Gossip(House house) {
             this.house = house;
@@ -1224,9 +1206,12 @@ public final class StairNews {
             for (int floor = 0; floor < house.floors; floor++) {
                 int there = peopleOn(landings, floor);
                 int hearers = there & ~knowers & ~deaf;
+                if (hearers == 0) {
+                    continue;
+                }
                 int tellers = bit(quiet, floor) == 1 ? 0 : there & knowers;
                 int callers = floor == house.bucketTo ? peopleOn(landings, house.bucketFrom) & knowers : 0;
-                if (hearers == 0 || (tellers | callers) == 0) {
+                if ((tellers | callers) == 0) {
                     continue;
                 }
                 words[FLOOR] = floor;
@@ -1265,7 +1250,7 @@ public final class StairNews {
                 words[CHAIRS] = lore.chairs[t];
                 words[SINCE] = words[BELL] - lore.heardAt[t];
                 words[TWIST] = house.twist[t];
-                if (rule.sum(words) > 0) {
+                if (rule.sum(words, stack) > 0) {
                     return t;
                 }
             }
@@ -1355,9 +1340,9 @@ public final class StairNews {
         final Gossip gossip;
         final Folk folk = new Folk();
         final Lore lore = new Lore();
-        final long[] landings = new long[BELL_MAX + 1];
+        final long[] landings = new long[CALLS_MAX];
         final int[] startAnswers = new int[STARTS_MAX * PEOPLE_MAX];
-        final int[] tally = new int[CHAIRS_MAX - WITHOUT + 1];
+        final int[] tally = new int[2 * START_CHAIRS_MAX + 2];
         int firstBell;
         int startCount;
         int startPerson;
@@ -1507,17 +1492,13 @@ public final class StairNews {
         /** How many of the starts that were found that person's answer leaves alike at most. */
         private int mostAlike(int person) {
             int most = 0;
+            Arrays.fill(tally, 0);
             for (int i = 0; i < startCount && i < STARTS_MAX; i++) {
-                int place = startAnswers[i * PEOPLE_MAX + person] - WITHOUT;
+                int chairs = startAnswers[i * PEOPLE_MAX + person];
+                int place = chairs == WITHOUT ? 0 : chairs + START_CHAIRS_MAX + 1;
                 if (place >= 0 && place < tally.length) {
                     tally[place]++;
                     most = Math.max(most, tally[place]);
-                }
-            }
-            for (int i = 0; i < startCount && i < STARTS_MAX; i++) {
-                int place = startAnswers[i * PEOPLE_MAX + person] - WITHOUT;
-                if (place >= 0 && place < tally.length) {
-                    tally[place] = 0;
                 }
             }
             return most;
