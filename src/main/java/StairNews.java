@@ -91,10 +91,10 @@ public final class StairNews {
 
     public int house() {
         int fault = HouseReader.read(tape, spare);
+        tape.length = 0;
         if (fault != 0) {
             return -2 - fault;
         }
-        tape.length = 0;
         now.moveInto(spare);
         history.forget();
         return now.told.people;
@@ -105,10 +105,10 @@ public final class StairNews {
             return NONE;
         }
         int fault = ruleReader.read(rules[ruleCount]);
+        tape.length = 0;
         if (fault != 0) {
             return -2 - fault;
         }
-        tape.length = 0;
         ruleCount++;
         return ruleCount - 1;
     }

@@ -221,6 +221,7 @@ final class Plain {
 
     int house() {
         tokens = tokens(tape.toString());
+        tape.setLength(0);
         next = 0;
         World w = new World();
         try {
@@ -239,7 +240,6 @@ final class Plain {
         w.plants = w.toldPlants.clone();
         world = w;
         undone.clear();
-        tape.setLength(0);
         return w.people.size();
     }
 
@@ -312,6 +312,7 @@ final class Plain {
             return -1;
         }
         tokens = tokens(tape.toString());
+        tape.setLength(0);
         next = 0;
         amount = 0;
         List<Clause> clauses = new ArrayList<>();
@@ -325,7 +326,6 @@ final class Plain {
         } catch (Fault f) {
             return -2 - f.number;
         }
-        tape.setLength(0);
         rules.add(clauses);
         return rules.size() - 1;
     }

@@ -61,6 +61,7 @@ public final class PlainTest {
     }
 
     private void tape(String text) {
+        due("count(11)", x.count(11), y.count(11));
         due("end(0)", x.end(0), y.end(0));
         for (int i = 0; i < text.length(); i += 20) {
             int[] n = new int[5];

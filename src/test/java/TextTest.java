@@ -67,7 +67,7 @@ public final class TextTest {
     private static void fault(String text, int place, int kind) {
         StairNews x = new StairNews();
         Due.is("house '" + text + "'", Due.house(x, text), Due.fault(place, kind));
-        Due.is("its tape stays", x.count(11), text.length());
+        Due.is("the tape is empty then", x.count(11), 0);
         Due.is("no house then", x.count(0), 0);
     }
 
@@ -161,6 +161,11 @@ public final class TextTest {
         Due.is("all stays: bell", x.count(5), 3);
         Due.is("all stays: acts", x.count(9), 4);
         Due.is("all stays: news", x.count(8), 1);
+        Due.is("all stays: who knows", x.count(6), 1);
+        Due.is("all stays: the rule in force", x.count(4), 0);
+        Due.is("all stays: x", x.count(10), 77);
+        Due.is("the tape does not stay", x.count(11), 0);
+        Due.is("feed behind a fault", x.feed(0, 0, 0, 0, 0), 20);
         Due.is("another", Due.house(x, "house 2;person 1 1;person 0 1;person 1 2"), 3);
         Due.is("floors", x.count(0), 2);
         Due.is("bell", x.count(5), 0);
@@ -185,18 +190,22 @@ public final class TextTest {
         Due.is("no blanks", Due.rule(x, "tell1if[bell<3or not floor>=2]and night<=known;tell teller-hearer"), 2);
         Due.is("all signs", Due.rule(x, "tell 99999 if 1<2 or 1<=2 or 1=2 or 1>=2 or 1>2"), 3);
         Due.is("a fault", Due.rule(x, "tell"), Due.fault(4, 0));
-        Due.is("its tape stays", x.count(11), 4);
+        Due.is("the tape is empty then", x.count(11), 0);
         Due.is("rules", x.count(3), 4);
         Due.is("a fifth", Due.rule(x, "tell 00000"), 4);
         Due.is("a sixth", Due.rule(x, "  tell  1  ;  tell 2  "), 5);
         Due.is("no seventh", Due.rule(x, "tell 1"), -1);
         Due.is("nothing happens", x.count(11), 6);
         Due.is("no seventh", x.count(3), 6);
+        Due.is("nor a fault", Due.rule(x, "tell"), -1);
+        Due.is("nothing happens", x.count(11), 4);
+        Due.is("a house off the tape still", Due.house(x, "house 2"), 0);
     }
 
     private static void ruleFault(String text, int place, int kind) {
         StairNews x = new StairNews();
         Due.is("rule '" + text + "'", Due.rule(x, text), Due.fault(place, kind));
+        Due.is("the tape is empty then", x.count(11), 0);
         Due.is("no rule then", x.count(3), 0);
     }
 
