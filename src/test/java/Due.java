@@ -2,6 +2,7 @@
 final class Due {
     private static int wrong = 0;
     private static int asked = 0;
+    private static String sentence = "";
 
     private Due() {
     }
@@ -10,8 +11,13 @@ final class Due {
         asked++;
         if (got != want) {
             wrong++;
-            System.out.println(call + " answered " + got + ", due is " + want);
+            System.out.println(sentence + call + " answered " + got + ", due is " + want);
         }
+    }
+
+    /** What the answers that follow are due by; it is shown with each that is wrong. */
+    static void of(String words) {
+        sentence = words;
     }
 
     static void is(String call, boolean got, boolean want) {
