@@ -121,6 +121,10 @@ public final class AskTest {
         Due.rule(z, "tell 1 if known > 1 and hearer = 2 and chairs = 0");
         z.force(0);
         whom(z, 1, 9, 2, 1, 4);
+        StairNews u = Due.in("house 3;person 0 1;person 1 1;errand 0 1 3");
+        Due.rule(u, "tell 1 if chairs = 0");
+        u.force(0);
+        whom(u, 1, 4, 2, 1, 1);
         StairNews w = Due.in("house 3;person 0 9;person 0 9;person 1 9;deaf 2;person 2 1;bucket 0 2");
         Due.is("a deaf one can't be told", w.whom(1, 9, 0, 0), -2);
         StairNews v = Due.in("house 3;person 0 1;person 1 1;person 1 1;person 2 1;deaf 3;errand 1 0 0");

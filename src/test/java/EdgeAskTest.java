@@ -7,7 +7,7 @@ import java.util.function.Supplier;
 public final class EdgeAskTest {
     private static final int MIN = Integer.MIN_VALUE;
     private static final int MAX = Integer.MAX_VALUE;
-    private static final int[] NOBODY = {-1, -2, 4, 5, 7, 32, 1000, MIN, MAX};
+    private static final int[] NOBODY = {-1, -2, 5, 6, 7, 32, 1000, MIN, MAX};
     private static final int[] NOWHERE = {-1, -2, 5, 6, 9, 32, 1000, MIN, MAX};
     private static final int[] NOT_PLANNED = {-1, 0, 61, 62, 100, MIN, MAX};
     private static final int[] NEITHER = {-1, -2, 2, 3, 32, MIN, MAX};
@@ -162,7 +162,7 @@ public final class EdgeAskTest {
             Still.keeps("where(" + p + ", 0)", Still::rich, x -> x.where(p, 0), -1);
             Due.is("where(" + p + ", 100)", Still.rich().where(p, 100), -1);
         }
-        Due.is("the last person", Still.rich().where(3, 100), 0);
+        Due.is("the last person", Still.rich().where(4, 100), 0);
         Due.is("without people", Due.in("house 2").where(0, 0), -1);
         Due.is("without a house", new StairNews().where(0, 0), -1);
     }
@@ -197,7 +197,8 @@ public final class EdgeAskTest {
         for (int p : NOBODY) {
             Still.keeps("hears(" + p + ")", Still::rich, x -> x.hears(p), -1);
         }
-        Due.is("the last one, deaf", Still.rich().hears(3), -2);
+        Due.is("a deaf one", Still.rich().hears(3), -2);
+        Due.is("the last person", Still.rich().hears(4), 0);
         Due.is("without people", Due.in("house 2").hears(0), -1);
         Due.is("without a house", new StairNews().hears(0), -1);
     }
@@ -293,11 +294,11 @@ public final class EdgeAskTest {
         Supplier<StairNews> ten = () -> {
             StairNews y = Still.rich();
             for (int i = 2; i < 10; i++) {
-                y.news(0, 5);
+                y.news(0, 0);
             }
             return y;
         };
-        Still.keeps("an 11th that fits", ten, y -> y.news(0, 5), -2);
+        Still.keeps("an 11th that fits", ten, y -> y.news(0, 0), -2);
         Still.keeps("an 11th that does not", ten, y -> y.news(0, 6), -2);
         Due.is("a tenth", nine().news(2, -1000), 10);
         StairNews last = nine();
@@ -346,10 +347,10 @@ public final class EdgeAskTest {
 
     private static void newsRefused() {
         Doc.says("Promise 20", "-2, and nothing happens, without these");
-        for (int p : new int[] {-2, -3, 4, 5, 7, 32, MIN, MAX}) {
+        for (int p : new int[] {-2, -3, 5, 6, 7, 32, MIN, MAX}) {
             Still.keeps("news(" + p + ", 0)", Still::rich, x -> x.news(p, 0), -2);
         }
-        Due.is("the last person", Still.rich().news(3, 0), 3);
+        Due.is("the last person", Still.rich().news(4, 0), 3);
         Still.keeps("without people", () -> Due.in("house 2"), x -> x.news(0, 0), -2);
         Still.keeps("without a house", StairNews::new, x -> x.news(0, 0), -2);
         StairNews x = Still.rich();
@@ -494,6 +495,34 @@ public final class EdgeAskTest {
         StairNews full = Due.in("house 2" + Due.times(";person 0 1", 7));
         Due.ring(full, 60);
         look("the most starts, all alike", full, 0, 287);
+        // It goes from each to the next, and 0 started it: 6 knows it with the most chairs there can be, or the fewest.
+        for (String word : new String[] {"adds", "takes"}) {
+            for (int bells = 6; bells <= 12; bells += 6) {
+                StringBuilder text = new StringBuilder("house 2" + Due.times(";person 0 1", 7));
+                for (int p = 0; p < 7; p++) {
+                    text.append(';').append(word).append(' ').append(p).append(" 9");
+                }
+                StairNews chain = Due.in(text.toString());
+                Due.rule(chain, "tell 1 if hearer = teller + 1");
+                chain.force(0);
+                Due.ring(chain, bells);
+                chain.news(0, 0);
+                look(word + " at bell " + bells, chain, bells == 6 ? 3 : 6, bells == 6 ? 4 : 7);
+                chain.news(6, word.equals("adds") ? 54 : -54);
+                int many = bells - 5;
+                starts(word + " at bell " + bells, chain, many, 0, 0);
+                look(word + " at bell " + bells, chain, 0, many);
+            }
+        }
+        Doc.says("Terms", "BELLS go on by the RULE IN FORCE");
+        StairNews ruled = Due.in("house 2;person 0 1;person 0 1");
+        Due.rule(ruled, "tell 0");
+        Due.ring(ruled, 1);
+        look("without a rule", ruled, 0, 3);
+        ruled.force(0);
+        look("by a rule", ruled, 0, 2);
+        ruled.force(-1);
+        look("without a rule again", ruled, 0, 3);
     }
 
     private static void lookNone() {
@@ -599,6 +628,10 @@ public final class EdgeAskTest {
             silence("not yet", x, 1, bell, 0, 0);
         }
         silence("60 bells", carried(60), 1, 60, 0, 0);
+        StairNews first = Due.in("house 3;person 0 1;person 1 1;person 0 1;errand 0 1 1");
+        first.whisper(2, 0);
+        silence("by 0", first, 1, 2, 1, 1);
+        silence("not yet", first, 1, 1, 0, 0);
         silence("one bell", carried(9), 1, 1, 0, 0);
         silence("one bell", carried(9), 2, 1, -2, -2);
     }
@@ -649,7 +682,8 @@ public final class EdgeAskTest {
         for (int what : NEITHER) {
             Still.keeps("silence(0, 1, " + what + ")", Still::rich, x -> x.silence(0, 1, what), -1);
         }
-        Due.is("the last person", Still.rich().silence(3, 60, 0), 0);
+        Due.is("a deaf one", Still.rich().silence(3, 60, 0), 0);
+        Due.is("the last person", Still.rich().silence(4, 60, 0), -2);
         Due.is("without people", Due.in("house 2").silence(0, 1, 0), -1);
         Due.is("without a house", new StairNews().silence(0, 1, 0), -1);
     }
@@ -669,6 +703,9 @@ public final class EdgeAskTest {
         meeting("house 9;person 8 1", 8, 0);
         meeting("house 9;person 8 1;person 0 1", 0, 8);
         meeting("house 9;person 8 1;person 7 1", 7, 1);
+        meeting("house 9;person 1 1", 1, 0);
+        meeting("house 2;person 1 1", 1, 0);
+        meeting("house 2;person 1 1;person 0 1", 0, 1);
         meeting("house 9;person 8 1;person 0 1;person 8 1", 8, 8);
         meeting("house 9;person 8 1;person 0 1;person 5 1", 5, 8);
         meeting("house 9" + Due.times(";person 8 1", 7), 8, 0);
@@ -704,6 +741,9 @@ public final class EdgeAskTest {
             Due.is("one later, at bell " + bell, meetingAt(bell).cost(0), 1);
             Due.is("the other's heel, at bell " + bell, meetingAt(bell).cost(1), 0);
         }
+        StairNews other = Due.in("house 3;person 0 1;person 1 1;errand 1 0 7");
+        other.whisper(1, 0);
+        Due.is("0 hears it", other.cost(1), 1);
         StairNews later = meetingAt(99);
         Due.is("with a heel it is behind 100 bells", later.cost(0), -1000);
         later.bell();

@@ -14,6 +14,7 @@ public final class EdgeTextTest {
         endRefused();
         houseEmptiesTape();
         houseInPlace();
+        houseLeavesNothingOver();
         houseFaultStays();
         textLength();
         houseClauses();
@@ -37,8 +38,10 @@ public final class EdgeTextTest {
         ruleLetters();
         ruleGrammar();
         blanks();
+        everyByte();
         depth();
         values();
+        valuesOfEachRule();
         facts();
         faultOfSign();
         faultOfNumber();
@@ -192,6 +195,34 @@ public final class EdgeTextTest {
         Due.is("without people", Due.house(x, "house 2"), 0);
         Due.is("no first", x.person(0, 0), -1000);
         Due.is("seven people", Due.house(x, "house 2" + Due.times(";person 0 1", 7)), 7);
+    }
+
+    private static void houseLeavesNothingOver() {
+        Doc.says("Promise 4", "is the HOUSE in place of the one there was");
+        String full = "house 3" + Due.times(";person 1 2", 7) + Due.times(";errand 0 2 0", 10) + Due.times(";hates 5 6", 6)
+                + ";deaf 0;adds 1 9;takes 2 9;plant 1;night 1;lit 1;bucket 1 0";
+        String bare = "house 3" + Due.times(";person 1 2", 7);
+        StairNews x = Due.in(full);
+        Due.is("as full once more", Due.house(x, full), 7);
+        Due.is("a fault of one as full", Due.house(x, full + ";bucket 0 1"), Due.fault(full.length() + 1, 4));
+        Due.is("as full behind a fault", Due.house(x, full), 7);
+        x.whisper(1, 3);
+        x.send(2, 2);
+        Due.ring(x, 1);
+        Due.is("one walks", x.person(0, 2), 1);
+        Due.is("another walks", x.person(2, 2), 1);
+        x.plant(2);
+        x.heel(3);
+        Due.is("a bare one", Due.house(x, bare), 7);
+        Still.alike("as in a new object", x, Due.in(bare));
+        StairNews told = Due.in("house 3;person 0 1;person 0 1");
+        told.whisper(0, 7);
+        told.bell();
+        Due.is("heard of 0", told.knows(1, 2), 0);
+        Due.house(told, "house 3;person 0 1;person 0 1");
+        Due.is("of nobody", told.knows(1, 2), -1);
+        Due.is("not at all", told.knows(1, 0), -1);
+        Due.is("no chairs", told.knows(0, 1), 0);
     }
 
     private static void houseFaultStays() {
@@ -543,6 +574,14 @@ public final class EdgeTextTest {
         Due.is("a fault of the sixth", Due.rule(y, "tell 1;tell"), Due.fault(11, 0));
         Due.is("five", y.count(3), 5);
         Due.is("the sixth", Due.rule(y, "tell 1"), 5);
+        for (String text : new String[] {"tell 0", "tell 0 if 1=1", "tell 1 if 1=2", "tell 1 if 1=2;tell 0;tell 1"}) {
+            StairNews w = Due.in("house 2;person 0 1;person 0 1");
+            Due.is("a fault behind clauses that would tell", Due.rule(w, "tell 1;tell 1;tell 1;tell x"), Due.fault(26, 0));
+            Due.is("in its place '" + text + "'", Due.rule(w, text), 0);
+            w.force(0);
+            w.whisper(0, 0);
+            Due.is("nothing is left of it by '" + text + "'", w.ahead(100), 1);
+        }
         Still.sameBehind("a fault changes but the tape", Still::rich, z -> Due.rule(z, "tell 5 if bell"), z -> z.end(0));
     }
 
@@ -631,6 +670,19 @@ public final class EdgeTextTest {
             ruleFault("tell " + word + "_", 5 + word.length(), 0);
             rule("tell 3*" + word + "%7");
         }
+        for (String letter : new String[] {"a", "z"}) {
+            ruleFault("tell" + letter + " 1", 0, 0);
+            ruleFault("tell bell" + letter, 5, 0);
+            ruleFault(letter + "tell 1", 0, 0);
+            fault("house" + letter + " 2", 0, 0);
+            fault("house 2;lit" + letter + " 0", 8, 0);
+            fault(letter + "house 2", 0, 0);
+        }
+        for (char sign : new char[] {'`', '{', '@', '['}) {
+            ruleFault("tell" + sign + "1", 4, 0);
+            ruleFault("tell bell" + sign, 9, 0);
+            fault("house" + sign + "2", 5, 0);
+        }
         ruleFault("tellbell", 0, 0);
         ruleFault("tel bell", 0, 0);
         ruleFault("tell bellif 1=1", 5, 0);
@@ -708,6 +760,29 @@ public final class EdgeTextTest {
         fault("house 2;person 0 1;adds 0 1 0", 28, 0);
     }
 
+    private static void everyByte() {
+        Doc.says("Terms", "0 a byte or WORD that can't stand there, or the end (behind the last byte)");
+        for (int b = 0; b < 256; b++) {
+            char sign = (char) b;
+            boolean digit = b >= '0' && b <= '9';
+            boolean joins = "+-*/%".indexOf(sign) >= 0;
+            Due.is("house, then byte " + b, Due.house(new StairNews(), "house 2" + sign),
+                    b == ' ' ? 0 : b == ';' ? Due.fault(8, 0) : digit ? Due.fault(6, 1) : Due.fault(7, 0));
+            Due.is("byte " + b + ", then house", Due.house(new StairNews(), sign + "house 2"),
+                    b == ' ' ? 0 : Due.fault(0, 0));
+            Due.is("house, byte " + b + ", number", Due.house(new StairNews(), "house" + sign + "2"),
+                    b == ' ' || b == '0' ? 0 : digit ? Due.fault(5, 1) : b >= 'a' && b <= 'z' ? Due.fault(0, 0)
+                    : Due.fault(5, 0));
+            Due.is("tell, then byte " + b, Due.rule(new StairNews(), "tell 1" + sign),
+                    b == ' ' || digit ? 0 : b == ';' || joins ? Due.fault(7, 0) : Due.fault(6, 0));
+            Due.is("a fact with byte " + b, Due.rule(new StairNews(), "tell 1 if 1" + sign + "1"),
+                    b == '<' || b == '=' || b == '>' ? 0 : joins || digit ? Due.fault(13, 0)
+                    : b == ' ' ? Due.fault(12, 0) : Due.fault(11, 0));
+            Due.is("a FACT of byte " + b, Due.rule(new StairNews(), "tell 1 if " + sign + "1=1"),
+                    b == ' ' || digit ? 0 : b == '[' ? Due.fault(14, 0) : Due.fault(10, 0));
+        }
+    }
+
     private static void depth() {
         Doc.says("Terms", "[ and not lie within one another 10 deep at most");
         Doc.says("Terms", "2 too deep (at the sign that opens, or the word not)");
@@ -752,6 +827,16 @@ public final class EdgeTextTest {
         String words = "tell bell" + Due.times("*bell", 59);
         rule(words);
         ruleFault(words + "*bell", words.length() + 1, 3);
+    }
+
+    private static void valuesOfEachRule() {
+        Doc.says("Terms", "at most 60 VALUES (of SUMS) and FACTS made of a SIGN, together");
+        String sixty = "tell 1" + Due.times("+1", 59);
+        StairNews x = new StairNews();
+        Due.is("60", Due.rule(x, sixty), 0);
+        Due.is("60 again", Due.rule(x, sixty), 1);
+        Due.is("61", Due.rule(x, sixty + "+1"), Due.fault(sixty.length() + 1, 3));
+        Due.is("60 behind that", Due.rule(x, sixty), 2);
     }
 
     private static void facts() {

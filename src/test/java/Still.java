@@ -105,12 +105,12 @@ final class Still {
     }
 
     /**
-     * Five floors, four people: 0 knows, 1 stands, 2 walks, 3 is deaf and as slow as can be. There are two rules, a
-     * rule in force, two pieces of news, acts to undo, images 0 and 2, and a house of two on the tape.
+     * Five floors, five people: 0 knows, 1 stands, 2 walks, 3 is deaf and as slow as can be, 4 heard it of 0. There are
+     * two rules, a rule in force, two pieces of news, acts to undo, images 0 and 2, and a house of two on the tape.
      */
     static StairNews rich() {
-        StairNews x = Due.in("house 5;person 0 1;person 2 2;person 4 3;person 0 9;errand 0 2 6;errand 1 4 9;hates 0 3;"
-                + "adds 0 2;takes 1 1;plant 1;deaf 3;night 30;lit 4;bucket 4 0");
+        StairNews x = Due.in("house 5;person 0 1;person 2 2;person 4 3;person 0 9;person 0 1;errand 0 2 6;errand 1 4 9;"
+                + "hates 0 3;adds 0 2;takes 1 1;plant 1;deaf 3;night 30;lit 4;bucket 4 0");
         Due.rule(x, "tell 1 if bell < 5");
         Due.rule(x, "tell chairs + 1 if not hearer = 3");
         x.force(1);
@@ -121,7 +121,7 @@ final class Still {
         x.bell();
         x.plant(3);
         x.heel(1);
-        x.news(0, 5);
+        x.news(0, 0);
         x.news(1, -1000);
         x.seed(12345);
         x.image(2);
