@@ -186,6 +186,21 @@ public final class EdgeAskTest {
             Due.ring(y, 3);
             Due.is("from bell 3 to " + bell, y.hears(1), bell <= 102 ? bell : -2);
         }
+        Doc.says("Terms", "100 are looked at most");
+        StairNews far = Due.in("house 2;person 0 1;person 1 1");
+        Due.rule(far, "tell 1 if bell >= 100");
+        far.force(0);
+        far.whisper(0, 0);
+        far.send(1, 0);
+        Due.is("bell 100 from bell 0 on", far.hears(1), -2);
+        Due.is("bell 100 from bell 0 on", far.ahead(100), 1);
+        Due.is("bell 100 from bell 0 on", far.cost(0), -1000);
+        far.bell();
+        Due.is("bell 100 from bell 1 on", far.hears(1), 100);
+        Due.is("bell 100 from bell 1 on", far.ahead(99), 1);
+        Due.is("bell 100 from bell 1 on", far.ahead(100), 3);
+        Due.is("bell 100 from bell 1 on", far.cost(0), 0);
+        Doc.says("Promise 18", "HEARS; -2: not in 100 BELLS");
         Due.is("nobody knows", Due.in("house 2;person 0 1").hears(0), -2);
         StairNews deaf = Due.in("house 2;person 0 1;person 0 1;deaf 1");
         deaf.whisper(0, 0);
@@ -387,6 +402,13 @@ public final class EdgeAskTest {
         y.news(1, 0);
         y.news(0, 0);
         starts("at bell 41", y, 82, 0, 0);
+        Doc.says("Terms", "that one was WHISPERED to ahead of that BELL");
+        StairNews now = Due.in("house 2;person 0 1;person 0 1");
+        starts("ahead of bell 0, none has gone by", now, 2, 0, 0);
+        now.news(1, -1000);
+        starts("ahead of bell 0, none has gone by", now, 1, 0, 0);
+        now.bell();
+        starts("ahead of bell 1, which is now", now, 1, 0, 1);
         // At bell 40 they part: a start of 0 at bell 40 comes too late for 1, one at bell 39 does not.
         StairNews z = Due.in("house 3;person 0 1;person 0 1;errand 1 1 40");
         Due.ring(z, 60);

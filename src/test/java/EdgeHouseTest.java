@@ -48,6 +48,7 @@ public final class EdgeHouseTest {
         heel();
         undoTwenty();
         undoLastFirst();
+        whatIsAnAct();
         undoRefused();
         seed();
         count();
@@ -59,6 +60,8 @@ public final class EdgeHouseTest {
     }
 
     private static void newObject() {
+        Doc.says("Terms", "`NONE = -1`: None");
+        Due.is("NONE", StairNews.NONE, -1);
         Doc.says("Promise 1", "No HOUSE, no RULES, none IN FORCE (all who can tell)");
         StairNews x = new StairNews();
         int[] due = {0, 0, 0, 0, -1, 0, 0, 0, 0, 0, 0, 0, -1};
@@ -798,6 +801,7 @@ public final class EdgeHouseTest {
         for (int p : NOBODY) {
             Still.keeps("whisper(" + p + ", 0)", Still::rich, x -> whispered(x, p, 0), 0);
         }
+        Doc.says("Terms", "WHISPER (a PERSON not deaf knows it, with so many CHAIRS, if they did not)");
         Still.keeps("a deaf one", Still::rich, x -> whispered(x, 3, 0), 0);
         Still.keeps("one who knows", Still::rich, x -> whispered(x, 0, 0), 0);
         Still.keeps("one who heard", () -> {
@@ -824,6 +828,7 @@ public final class EdgeHouseTest {
         for (int f : NOWHERE) {
             Still.keeps("send(0, " + f + ")", Still::rich, x -> x.send(0, f), -1);
         }
+        Doc.says("Terms", "SEND (a PERSON who stands sets out for another FLOOR now)");
         Still.keeps("to where they are", Still::rich, x -> x.send(1, 2), -1);
         for (int f = 0; f < 5; f++) {
             int floor = f;
@@ -853,6 +858,13 @@ public final class EdgeHouseTest {
             Due.is("floor(" + f + ", 1)", x.floor(f, 1), 1 - due[f]);
         }
         Due.is("each is an act", x.count(9), 17);
+        Doc.says("Terms", "PLANT (one is put on a landing, or taken away)");
+        StairNews two = Due.in("house 2;person 0 1;person 0 1");
+        two.whisper(0, 0);
+        two.plant(0);
+        Due.is("put", two.bell(), 0);
+        two.plant(0);
+        Due.is("taken away", two.bell(), 1);
         Doc.says("Promise 13", "NONE, and nothing happens, without that FLOOR");
         for (int f : NOWHERE) {
             Still.keeps("plant(" + f + ")", Still::rich, y -> y.plant(f), -1);
@@ -971,6 +983,30 @@ public final class EdgeHouseTest {
         Due.is("bells a flight", x.person(1, 3), 2);
         at("at home", x, 2, 4, 4, 0);
         Due.is("the image stays", x.back(1), 3);
+    }
+
+    private static void whatIsAnAct() {
+        Doc.says("Terms", "ACTS: a BELL; WHISPER");
+        StairNews x = Due.in("house 3;person 0 1;person 0 1");
+        x.bell();
+        Due.is("a bell", x.count(9), 1);
+        x.whisper(0, 0);
+        Due.is("a whisper", x.count(9), 2);
+        x.send(0, 2);
+        Due.is("a send", x.count(9), 3);
+        x.plant(0);
+        Due.is("a plant", x.count(9), 4);
+        x.heel(0);
+        Due.is("a heel", x.count(9), 5);
+        x.undo();
+        Due.is("undoing is none", x.count(9), 4);
+        x.force(-1);
+        x.news(0, 0);
+        x.seed(1);
+        x.image(0);
+        Due.rule(x, "tell 1");
+        x.evenings(1, 1, 0);
+        Due.is("nothing else is one", x.count(9), 4);
     }
 
     private static void undoRefused() {

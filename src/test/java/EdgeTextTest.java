@@ -45,6 +45,7 @@ public final class EdgeTextTest {
         facts();
         faultOfSign();
         faultOfNumber();
+        faultOfClause();
         faultFirst();
         faultLeast();
         force();
@@ -900,6 +901,25 @@ public final class EdgeTextTest {
         fault("house 2;night 18446744073709551616", 14, 1);
         ruleFault("tell 1+ 123456", 8, 1);
         ruleFault("tell 1 if 4294967297 = 1", 10, 1);
+    }
+
+    private static void faultOfClause() {
+        Doc.says("Terms", "4 one CLAUSE too many, a second house, night or bucket, another CLAUSE ahead of house, an eighth "
+                + "PERSON, an 11th ERRAND, a seventh HATES (at its first byte)");
+        String two = "house 3;person 0 1;person 1 1";
+        String[] firsts = {"house 3" + Due.times(";lit 1", 39), "house 3", "house 3;night 0", "house 3;bucket 0 1", "",
+            "house 3" + Due.times(";person 1 1", 7), two + Due.times(";errand 1 2 99", 10), two + Due.times(";hates 0 1", 6)};
+        String[] overs = {"lit 1", "house 3", "night 0", "bucket 0 1", "night 0", "person 1 1", "errand 1 2 99", "hates 0 1"};
+        for (int i = 0; i < firsts.length; i++) {
+            String first = firsts[i].isEmpty() ? "" : firsts[i] + ";";
+            if (!first.isEmpty()) {
+                Due.is("'" + firsts[i] + "' is none too many", Due.house(new StairNews(), firsts[i]) >= 0, true);
+            }
+            fault(first + overs[i], first.length(), 4);
+            fault(first + "   " + overs[i], first.length() + 3, 4);
+            fault(first + overs[i].substring(0, overs[i].indexOf(' ')), first.length(), 4);
+            fault(first + overs[i].replace(' ', '?'), first.length(), 4);
+        }
     }
 
     private static void faultFirst() {
