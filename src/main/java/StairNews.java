@@ -21,8 +21,6 @@ public final class StairNews {
     private static final int PACE_MAX = 9;
     private static final int EARLY_BELL_MAX = 99;
     private static final int BELL_MAX = 999;
-    /** No object is used for more calls, so no bell is beyond their number. */
-    private static final int CALLS_MAX = 512;
     private static final int CHAIRS_MAX = 999;
     private static final int WHISPERED_CHAIRS_MAX = 99;
     private static final int RULES_MAX = 6;
@@ -34,6 +32,7 @@ public final class StairNews {
     /** Two that wait for and and or at each depth, four of a comparison. */
     private static final int STACK_MAX = 2 * (DEPTH_MAX + 1) + 4;
     private static final int ACTS_MAX = 20;
+    /** The document bounds the bells of all that is asked together, so evenings and starts have no more. */
     private static final int LOOKED_MAX = 100;
     private static final int PLANNED_MAX = 60;
     private static final int EVENINGS_MAX = 10;
@@ -1340,7 +1339,7 @@ public final class StairNews {
         final Gossip gossip;
         final Folk folk = new Folk();
         final Lore lore = new Lore();
-        final long[] landings = new long[CALLS_MAX];
+        final long[] landings = new long[LOOKED_MAX];
         final int[] startAnswers = new int[STARTS_MAX * PEOPLE_MAX];
         final int[] tally = new int[2 * START_CHAIRS_MAX + 2];
         int firstBell;
@@ -1448,7 +1447,7 @@ public final class StairNews {
 
         /** Tries all who could have started it when, from the house as it was told. */
         void findStarts() {
-            int bells = now.folk.bell;
+            int bells = Math.min(now.folk.bell, LOOKED_MAX);
             startCount = 0;
             folk.goHome(now.told);
             gossip.plants = now.told.plants;
@@ -1544,6 +1543,7 @@ public final class StairNews {
                 return;
             }
             long x = now.seed;
+            int left = LOOKED_MAX;
             for (int i = 0; i < evenings; i++) {
                 x = nextSeed(x);
                 int person = (int) (x / 65536 % people);
@@ -1552,8 +1552,10 @@ public final class StairNews {
                 if (folk.isStanding(person) && folk.at[person] != floor) {
                     folk.setOut(person, floor);
                 }
-                walk(bells);
-                talk(0, bells);
+                int looked = Math.min(bells, left);
+                walk(looked);
+                talk(0, looked);
+                left -= looked;
             }
         }
 

@@ -30,6 +30,7 @@ public final class EdgeAskTest {
         startsBells();
         startsFirst();
         startsAsTold();
+        startsLooked();
         startsNone();
         startsRefused();
         lookBest();
@@ -50,6 +51,7 @@ public final class EdgeAskTest {
         costRefused();
         draws();
         eveningsByHand();
+        eveningsLooked();
         eveningsWithoutPeople();
         eveningsRefused();
         Doc.coversPromises(16, 17, 18, 19, 20, 21, 22, 23, 24, 25, 26, 28);
@@ -468,6 +470,34 @@ public final class EdgeAskTest {
         starts("at bell 100", later, 0, -2, -2);
     }
 
+    private static void startsLooked() {
+        Doc.says("Terms", "100 are looked at most");
+        // Nobody tells but at one bell: of a start 1 can know it up to bell 99, the hundredth from bell 0 on.
+        for (int told : new int[] {41, 98, 99, 100, 101, 150}) {
+            StairNews x = Due.in("house 2;person 0 1;person 0 1;adds 0 3");
+            Due.rule(x, "tell 1 if bell = " + told);
+            x.force(0);
+            x.news(1, 3);
+            for (int bell : new int[] {99, 100, 101, 102, 151, 200}) {
+                Due.ring(x, bell - x.count(5));
+                boolean reached = told < Math.min(bell, 100);
+                String when = "told at bell " + told + ", asked at bell " + bell;
+                starts(when, x, reached ? 41 : 0, reached ? 0 : -2, reached ? 0 : -2);
+                look(when, x, reached ? 0 : -2, reached ? 41 : -2);
+            }
+        }
+        // 0 comes to 1 at bell 99, the hundredth, or a bell later.
+        StairNews y = Due.in("house 3;person 0 9;person 2 9;errand 0 2 82");
+        Due.ring(y, 120);
+        y.news(1, -1000);
+        starts("0 is on floor 2 at bell 99", y, 0, -2, -2);
+        StairNews z = Due.in("house 3;person 0 9;person 2 9;errand 0 2 83");
+        Due.ring(z, 120);
+        Due.is("0 is on floor 2 at bell 100", z.person(0, 0), 2);
+        z.news(1, -1000);
+        starts("0 is on floor 2 at bell 100", z, 41, 0, 0);
+    }
+
     private static void startsNone() {
         Doc.says("Promise 21", "(-2: there is none)");
         starts("all deaf", Due.in("house 2;person 0 1;deaf 0"), 0, -2, -2);
@@ -858,10 +888,12 @@ public final class EdgeAskTest {
         Draws draws = new Draws(x);
         int people = done.count(1);
         int floors = done.count(0);
+        int left = 100;
         for (int i = 0; i < m; i++) {
             int person = draws.next() % people;
             done.send(person, draws.next() % floors);
-            Due.ring(done, n);
+            Due.ring(done, Math.min(n, left));
+            left -= Math.min(n, left);
         }
         int chairs = 0;
         for (int p = 0; p < people; p++) {
@@ -892,6 +924,60 @@ public final class EdgeAskTest {
         }
         StairNews all = seven.get();
         Due.is("the most evenings", all.evenings(10, 60, 0) >= 1, true);
+    }
+
+    private static void eveningsLooked() {
+        Doc.says("Terms", "100 are looked at most");
+        int[][] sizes = {{1, 60}, {9, 11}, {3, 33}, {10, 10}, {5, 20}, {4, 25}, {2, 50}, {10, 11}, {3, 34}, {2, 51}, {2, 60},
+            {5, 40}, {10, 60}};
+        for (int[] size : sizes) {
+            for (int from : new int[] {0, 1, 7}) {
+                for (int bell = 97; bell <= 102; bell++) {
+                    eveningsToldAt(size[0], size[1], from, bell);
+                }
+            }
+        }
+        eveningsToldAt(10, 60, 0, 150);
+        eveningsToldAt(10, 60, 0, 599);
+        eveningsToldAt(2, 60, 400, 98);
+        eveningsToldAt(2, 60, 400, 99);
+        eveningsToldAt(2, 60, 400, 100);
+    }
+
+    /** Two who are on one landing, of whom 1 hears it of 0 but at one bell, so many behind the one it is. */
+    private static void eveningsToldAt(int m, int n, int from, int bell) {
+        Supplier<StairNews> two = () -> {
+            StairNews x = Due.in("house 2;person 0 1;person 0 1;adds 0 5");
+            Due.rule(x, "tell 1 if bell = " + (from + bell));
+            x.force(0);
+            Due.ring(x, from);
+            x.whisper(0, 1);
+            return x;
+        };
+        StairNews asked = two.get();
+        int x = xThatUnites(bell / n);
+        asked.seed(x);
+        boolean heard = bell < Math.min(100, m * n);
+        String when = "told " + bell + " bells on, from bell " + from + ": evenings(" + m + ", " + n + ")";
+        both(when, asked.evenings(m, n, 0), asked.evenings(m, n, 1), heard ? 3 : 1, heard ? 7 : 1);
+        byHand(when, two, x, m, n);
+        byHand(when, two, x + 1, m, n);
+    }
+
+    /** An x whose draws leave two people of a house of two floors on one landing in that evening. */
+    private static int xThatUnites(int evening) {
+        for (int x = 0; x < 1000; x++) {
+            Draws draws = new Draws(x);
+            int[] at = {0, 0};
+            for (int i = 0; i <= evening; i++) {
+                int person = draws.next() % 2;
+                at[person] = draws.next() % 2;
+            }
+            if (at[0] == at[1]) {
+                return x;
+            }
+        }
+        return 0;
     }
 
     private static void eveningsWithoutPeople() {

@@ -598,39 +598,20 @@ public final class EdgeHouseTest {
             Due.is("BELL", x.count(5), bell);
             x.bell();
         }
-        // By hand 999 is beyond the 512 calls; ten evenings come to it from bell 450 on.
+        // BELL 999 is beyond the 512 calls, so that no answer is promised there; it is as told all the same.
         String[] rules = {"tell 1 if bell = 998", "tell 1 if bell = 999", "tell 1 if bell > 999",
-            "tell 1 if since > 548", "tell 1 if since > 549"};
+            "tell 1 if since > 48", "tell 1 if since > 49"};
         int[] due = {3, 3, 1, 3, 1};
         for (int i = 0; i < rules.length; i++) {
             StairNews y = Due.in("house 2;person 0 1;person 0 1");
             Due.rule(y, rules[i]);
             y.force(0);
-            y.seed(xThatUnites());
-            Due.ring(y, 450);
-            Due.is("BELL", y.count(5), 450);
+            Due.ring(y, 950);
+            Due.is("BELL", y.count(5), 950);
             y.whisper(0, 0);
-            Due.is("'" + rules[i] + "', not in 100 bells", y.ahead(100), 1);
-            Due.is("'" + rules[i] + "', in ten evenings", y.evenings(10, 60, 0), due[i]);
+            Due.is("'" + rules[i] + "', up to bell 997", y.ahead(48), 1);
+            Due.is("'" + rules[i] + "', in 100 bells", y.ahead(100), due[i]);
         }
-    }
-
-    /** An x whose draws leave two people of a house of two floors on one landing all through the last two of ten evenings. */
-    private static int xThatUnites() {
-        for (int x = 0; x < 1000; x++) {
-            Draws draws = new Draws(x);
-            int[] at = {0, 0};
-            int together = 0;
-            for (int evening = 0; evening < 10; evening++) {
-                int person = draws.next() % 2;
-                at[person] = draws.next() % 2;
-                together += evening >= 8 && at[0] == at[1] ? 1 : 0;
-            }
-            if (together == 2) {
-                return x;
-            }
-        }
-        return 0;
     }
 
     private static void promisedCalls() {
@@ -647,7 +628,7 @@ public final class EdgeHouseTest {
         Due.is("call 510", x.look(1), 41);
         Due.is("call 511", x.whisper(0, 9), true);
         Due.is("call 512", x.evenings(10, 60, 1), 9);
-        // The longest that starts go back, and something happens late: of 0 it comes to 1 at bell 500 alone.
+        // The latest that starts are asked for: nobody tells ahead of bell 500, and they look at bells up to 99.
         StairNews y = new StairNews();
         y.feed(0x686F7573, 0x6520323B, 0x70657273, 0x6F6E2030, 0x20313B70);
         y.feed(0x6572736F, 0x6E203020, 0x31202020, 0x20202020, 0x20202020);
@@ -660,9 +641,9 @@ public final class EdgeHouseTest {
         }
         Due.is("call 508", y.count(5), 501);
         Due.is("call 509", y.news(1, 0), 1);
-        Due.is("call 510", y.news(0, 0), 2);
-        Due.is("call 511", y.starts(0), 82);
-        Due.is("call 512", y.look(1), 82);
+        Due.is("call 510", y.starts(0), 41);
+        Due.is("call 511", y.starts(1), 1);
+        Due.is("call 512", y.look(1), 41);
     }
 
     // ---- what is shown

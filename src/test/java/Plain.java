@@ -773,7 +773,7 @@ final class Plain {
                 }
                 World w = after(first, b);
                 tellNow(w, p, 0);
-                w = after(w, world.bell - b);
+                w = after(w, Math.min(world.bell, 100) - b);
                 boolean so = true;
                 for (int[] n : world.news) {
                     so &= answer(w.people.get(n[0])) == n[1];
@@ -912,6 +912,7 @@ final class Plain {
             return -1000000;
         }
         World w = world.copy();
+        int looked = 0;
         for (int i = 0; i < m && !w.people.isEmpty(); i++) {
             w.x = (w.x * 1103515245L + 12345) % (1L << 31);
             Person q = w.people.get((int) (w.x / 65536) % w.people.size());
@@ -921,7 +922,10 @@ final class Plain {
                 q.goal = f;
                 q.left = q.pace;
             }
-            w = after(w, n);
+            for (int bell = 0; bell < n && looked < 100; bell++) {
+                ring(w);
+                looked++;
+            }
         }
         int chairs = 0;
         for (Person q : w.people) {

@@ -34,7 +34,7 @@ public final class PlainTest {
     }
 
     private void go() {
-        int length = 40 + random.nextInt(200);
+        int length = 40 + random.nextInt(random.nextInt(20) == 0 ? 400 : 200);
         newHouse();
         while (calls < length) {
             step();
@@ -101,7 +101,7 @@ public final class PlainTest {
         tape(text);
         due("house() of '" + text + "'", x.house(), y.house());
         readSizes();
-        int bells = random.nextInt(3) == 0 ? random.nextInt(50) : 0;
+        int bells = random.nextInt(40) == 0 ? 90 + random.nextInt(40) : random.nextInt(3) == 0 ? random.nextInt(50) : 0;
         for (int i = 0; i < bells; i++) {
             due("bell()", x.bell(), y.bell());
         }
@@ -217,6 +217,10 @@ public final class PlainTest {
             return "[" + loose() + aTest(depth + 1) + loose() + "]";
         }
         String[] signs = {"<", "<=", "=", ">=", ">"};
+        if (random.nextInt(12) == 0) {
+            // Nobody tells until late, so that it shows how many bells are looked at.
+            return "bell" + loose() + signs[random.nextInt(5)] + " " + (60 + random.nextInt(90));
+        }
         return aSum() + loose() + signs[random.nextInt(5)] + loose() + aSum();
     }
 
