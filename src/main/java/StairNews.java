@@ -32,7 +32,7 @@ public final class StairNews {
     /** Two that wait for and and or at each depth, four of a comparison. */
     private static final int STACK_MAX = 2 * (DEPTH_MAX + 1) + 4;
     private static final int ACTS_MAX = 20;
-    /** The document bounds the bells of all that is asked together, so evenings and starts have no more. */
+    /** Of bells that go on from now, those of all evenings together; starts ask what has been, up to now. */
     private static final int LOOKED_MAX = 100;
     private static final int PLANNED_MAX = 60;
     private static final int EVENINGS_MAX = 10;
@@ -1339,7 +1339,8 @@ public final class StairNews {
         final Gossip gossip;
         final Folk folk = new Folk();
         final Lore lore = new Lore();
-        final long[] landings = new long[LOOKED_MAX];
+        /** Starts go back to bell 0, so there may be as many as bells at all. */
+        final long[] landings = new long[BELL_MAX];
         final int[] startAnswers = new int[STARTS_MAX * PEOPLE_MAX];
         final int[] tally = new int[2 * START_CHAIRS_MAX + 2];
         int firstBell;
@@ -1447,7 +1448,7 @@ public final class StairNews {
 
         /** Tries all who could have started it when, from the house as it was told. */
         void findStarts() {
-            int bells = Math.min(now.folk.bell, LOOKED_MAX);
+            int bells = now.folk.bell;
             startCount = 0;
             folk.goHome(now.told);
             gossip.plants = now.told.plants;

@@ -30,7 +30,7 @@ public final class EdgeAskTest {
         startsBells();
         startsFirst();
         startsAsTold();
-        startsLooked();
+        startsUpToNow();
         startsNone();
         startsRefused();
         lookBest();
@@ -470,32 +470,87 @@ public final class EdgeAskTest {
         starts("at bell 100", later, 0, -2, -2);
     }
 
-    private static void startsLooked() {
-        Doc.says("Terms", "100 are looked at most");
-        // Nobody tells but at one bell: of a start 1 can know it up to bell 99, the hundredth from bell 0 on.
-        for (int told : new int[] {41, 98, 99, 100, 101, 150}) {
+    private static void startsUpToNow() {
+        Doc.says("Terms", "that one was WHISPERED to ahead of that BELL, all as the text told it from BELL 0 on "
+                + "(nothing else was done), and all NEWS are so now");
+        // Nobody tells but at one bell: 1 knows it of a start from the bell behind that one on, however late that is.
+        for (int told : new int[] {41, 98, 99, 100, 101, 150, 299, 399}) {
             StairNews x = Due.in("house 2;person 0 1;person 0 1;adds 0 3");
             Due.rule(x, "tell 1 if bell = " + told);
             x.force(0);
             x.news(1, 3);
-            for (int bell : new int[] {99, 100, 101, 102, 151, 200}) {
+            for (int bell : new int[] {41, 42, 98, 99, 100, 101, 102, 150, 151, 299, 300, 301, 399, 400}) {
                 Due.ring(x, bell - x.count(5));
-                boolean reached = told < Math.min(bell, 100);
+                boolean reached = told < bell;
                 String when = "told at bell " + told + ", asked at bell " + bell;
                 starts(when, x, reached ? 41 : 0, reached ? 0 : -2, reached ? 0 : -2);
                 look(when, x, reached ? 0 : -2, reached ? 41 : -2);
             }
         }
-        // 0 comes to 1 at bell 99, the hundredth, or a bell later.
-        StairNews y = Due.in("house 3;person 0 9;person 2 9;errand 0 2 82");
-        Due.ring(y, 120);
-        y.news(1, -1000);
-        starts("0 is on floor 2 at bell 99", y, 0, -2, -2);
-        StairNews z = Due.in("house 3;person 0 9;person 2 9;errand 0 2 83");
-        Due.ring(z, 120);
-        Due.is("0 is on floor 2 at bell 100", z.person(0, 0), 2);
-        z.news(1, -1000);
-        starts("0 is on floor 2 at bell 100", z, 41, 0, 0);
+        startsOfLateWalkers();
+        startsOfLateRules();
+    }
+
+    private static void startsOfLateWalkers() {
+        // 0 comes to 1 at bell 99, or a bell later.
+        for (int errand = 82; errand <= 83; errand++) {
+            StairNews y = Due.in("house 3;person 0 9;person 2 9;errand 0 2 " + errand);
+            Due.ring(y, errand + 17);
+            Due.is("0 is nearly on floor 2", y.person(0, 0), 1);
+            y.news(1, -1000);
+            starts("0 is nearly on floor 2", y, 41, 0, 0);
+            y.bell();
+            Due.is("0 is on floor 2", y.person(0, 0), 2);
+            starts("0 is on floor 2", y, 0, -2, -2);
+            Due.ring(y, 20);
+            starts("0 stays on floor 2", y, 0, -2, -2);
+        }
+        // The latest that anybody walks by what was told: from the ground to the top at the last bell of errands.
+        StairNews top = Due.in("house 9;person 0 9;person 8 1;adds 0 5;errand 0 8 99");
+        top.news(1, 5);
+        Due.ring(top, 170);
+        starts("on the last flight", top, 0, -2, -2);
+        look("on the last flight", top, -2, -2);
+        top.bell();
+        starts("at the top", top, 41, 0, 0);
+        look("at the top", top, 0, 41);
+        Due.ring(top, 200);
+        starts("long at the top", top, 41, 0, 0);
+        top.send(0, 0);
+        top.plant(8);
+        top.heel(0);
+        Due.ring(top, 30);
+        starts("whatever was done late", top, 41, 0, 0);
+        top.image(3);
+        Due.house(top, "house 2;person 0 1");
+        starts("in a house told anew", top, 1, 0, 0);
+        top.back(3);
+        starts("gone back to late", top, 41, 0, 0);
+    }
+
+    private static void startsOfLateRules() {
+        // 1 hears it 200 bells behind the start, so that of 0 a start up to bell 20 is in time for bell 221.
+        StairNews x = Due.in("house 2;person 0 1;person 0 1;takes 0 4");
+        Due.rule(x, "tell 1 if since = 200");
+        x.force(0);
+        Due.ring(x, 200);
+        x.news(1, -4);
+        starts("at bell 200", x, 0, -2, -2);
+        x.bell();
+        starts("at bell 201", x, 1, 0, 0);
+        Due.ring(x, 20);
+        starts("at bell 221", x, 21, 0, 0);
+        x.news(-1, 0);
+        x.news(1, -1000);
+        starts("not yet at bell 221", x, 20, 0, 21);
+        look("not yet at bell 221", x, 0, 20);
+        x.news(-1, 0);
+        // By 0 are alike: the 41 of 0, with 21 of 1 that they heard, 62 in all. By 1: their own 41, 21 heard, 20 not.
+        look("without news at bell 221", x, 1, 41);
+        Due.ring(x, 20);
+        x.news(1, -4);
+        starts("at bell 241", x, 41, 0, 0);
+        look("at bell 241", x, 0, 41);
     }
 
     private static void startsNone() {

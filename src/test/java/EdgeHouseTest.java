@@ -628,7 +628,7 @@ public final class EdgeHouseTest {
         Due.is("call 510", x.look(1), 41);
         Due.is("call 511", x.whisper(0, 9), true);
         Due.is("call 512", x.evenings(10, 60, 1), 9);
-        // The latest that starts are asked for: nobody tells ahead of bell 500, and they look at bells up to 99.
+        // The longest that starts go back, and something happens late: of 0 it comes to 1 at bell 500 alone.
         StairNews y = new StairNews();
         y.feed(0x686F7573, 0x6520323B, 0x70657273, 0x6F6E2030, 0x20313B70);
         y.feed(0x6572736F, 0x6E203020, 0x31202020, 0x20202020, 0x20202020);
@@ -641,9 +641,9 @@ public final class EdgeHouseTest {
         }
         Due.is("call 508", y.count(5), 501);
         Due.is("call 509", y.news(1, 0), 1);
-        Due.is("call 510", y.starts(0), 41);
-        Due.is("call 511", y.starts(1), 1);
-        Due.is("call 512", y.look(1), 41);
+        Due.is("call 510", y.news(0, 0), 2);
+        Due.is("call 511", y.starts(0), 82);
+        Due.is("call 512", y.look(1), 82);
     }
 
     // ---- what is shown

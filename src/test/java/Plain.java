@@ -773,7 +773,7 @@ final class Plain {
                 }
                 World w = after(first, b);
                 tellNow(w, p, 0);
-                w = after(w, Math.min(world.bell, 100) - b);
+                w = after(w, world.bell - b);
                 boolean so = true;
                 for (int[] n : world.news) {
                     so &= answer(w.people.get(n[0])) == n[1];

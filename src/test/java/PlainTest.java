@@ -24,6 +24,9 @@ public final class PlainTest {
         int from = Integer.getInteger("stairnews.from", 0);
         for (int run = from; run < from + RUNS; run++) {
             new PlainTest(run).go();
+            if (run % 60 == 0) {
+                new PlainTest(run).goLate();
+            }
         }
         Due.finish();
     }
@@ -39,6 +42,36 @@ public final class PlainTest {
         while (calls < length) {
             step();
         }
+    }
+
+    /** Bells far beyond 100, and a rule by which they tell late: starts ask for all of them, what is ahead does not. */
+    private void goLate() {
+        newHouse();
+        String when = (random.nextBoolean() ? "bell" : "since") + (random.nextBoolean() ? " = " : " >= ");
+        String text = "tell 1 if " + when + (30 + random.nextInt(270)) + ";tell " + random.nextInt(2) + " if " + aTest(2);
+        tape(text);
+        due("rule() of '" + text + "'", x.rule(), y.rule());
+        int last = y.count(3) - 1;
+        due("force(" + last + ")", x.force(last), y.force(last));
+        while (calls < 500) {
+            int kind = random.nextInt(60);
+            if (kind == 0) {
+                ask();
+            } else if (kind == 1) {
+                aNews(some(people));
+                askForStarts();
+            } else {
+                due("bell()", x.bell(), y.bell());
+            }
+        }
+        askForStarts();
+    }
+
+    private void askForStarts() {
+        int which = some(3);
+        int what = some(2);
+        due("starts(" + which + ")", x.starts(which), y.starts(which));
+        due("look(" + what + ")", x.look(what), y.look(what));
     }
 
     private void step() {

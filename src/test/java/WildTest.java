@@ -27,8 +27,9 @@ public final class WildTest {
         Due.is("the last bell", x.bell(), 0);
         Due.is("at BELL 999", x.bell(), -1);
         Due.is("BELL", x.count(5), 999);
-        x.starts(0);
-        x.look(0);
+        x.news(1, 9);
+        Due.is("starts at BELL 999", x.starts(0) >= 1, true);
+        Due.is("look at BELL 999", x.look(0) >= 0, true);
         Due.is("ahead", x.ahead(100), x.count(6));
     }
 
