@@ -14,6 +14,8 @@ public final class EdgeAskTest {
 
     public static void main(String[] args) {
         nothingChanges();
+        whatOfPlans();
+        whatOfStarts();
         aheadNow();
         aheadRefused();
         whereNow();
@@ -102,6 +104,53 @@ public final class EdgeAskTest {
             x.where(0, 50);
             x.ahead(1);
         });
+    }
+
+    // ---- what each what answers: houses in which no two of these are alike
+
+    /** Person 0 goes up from bell 1 on, by 1 and 3 at bell 2, to 2 and 4 at bell 4. */
+    private static StairNews passingBy() {
+        return Due.in("house 5;person 0 1;person 2 1;person 4 1;person 2 1;person 4 1;errand 0 4 1;adds 0 3;takes 1 1");
+    }
+
+    private static void whatOfPlans() {
+        Doc.says("Promise 19", "WHOM what 0: how many, 1: the set");
+        both("whom(4, 5, 2)", passingBy().whom(4, 5, 2, 0), passingBy().whom(4, 5, 2, 1), 1, 4);
+        StairNews x = passingBy();
+        x.whisper(0, 10);
+        Doc.says("Promise 16", "Who knows n BELLS on, as bits");
+        Due.is("ahead(2)", x.ahead(2), 1);
+        Due.is("ahead(3)", x.ahead(3), 11);
+        Due.is("ahead(5)", x.ahead(5), 31);
+        Doc.says("Promise 23", "BLOCK what 0: the FLOOR, 1: how many know then");
+        both("block(5)", x.block(5, 0), x.block(5, 1), 2, 3);
+        Doc.says("Promise 25", "MEETING what 0: the FLOOR, 1: flights");
+        both("meeting", x.meeting(0), x.meeting(1), 2, 6);
+        Doc.says("Promise 26", "COST of a HEEL");
+        Due.is("bell 8 in place of 4", x.cost(0), 4);
+        Doc.says("Promise 24", "SILENCE what 0: how many, 1: the set");
+        StairNews carrier = Due.in("house 3;person 0 1;person 0 1;person 2 1;errand 1 2 3");
+        carrier.whisper(0, 0);
+        both("silence(2, 9)", carrier.silence(2, 9, 0), carrier.silence(2, 9, 1), 1, 2);
+        Doc.says("Promise 28", "EVENINGS what 0: who knows, 1: CHAIRS");
+        StairNews evening = passingBy();
+        evening.whisper(1, 10);
+        both("evenings(1, 1)", evening.evenings(1, 1, 0), evening.evenings(1, 1, 1), 10, 19);
+    }
+
+    private static void whatOfStarts() {
+        Doc.says("Promise 20", "A piece of NEWS");
+        StairNews x = passingBy();
+        Due.ring(x, 5);
+        Due.is("3 knows it of 1", x.news(3, -1), 1);
+        Due.is("0 does not know it", x.news(0, -1000), 2);
+        // Person 0 has been by at bell 2, so that 1 was told ahead of bell 3 or 4.
+        Doc.says("Promise 21", "STARTS what 0: how many, 1: the PERSON, 2: the BELL of the first");
+        Due.is("starts(0)", x.starts(0), 2);
+        Due.is("starts(1)", x.starts(1), 1);
+        Due.is("starts(2)", x.starts(2), 3);
+        Doc.says("Promise 22", "LOOK what 0: the PERSON, 1: how many are alike at most");
+        both("look", x.look(0), x.look(1), 0, 2);
     }
 
     // ---- ahead, where, hears
